@@ -137,7 +137,11 @@ final class ForetoldTest {
         x.set(1, 3, 20);
         due.is("a most of 20", x.span(0, 0, 1, 5, 0), 1);
         x.set(0, 4, -1);
+        x.set(1, 4, 5);
         due.is("a fewest of -1", x.span(0, 0, 1, 5, 0), Due.BAD);
+        x.set(0, 4, 20);
+        x.set(1, 4, 21);
+        due.is("a most of 21, one above its fewest", x.span(0, 0, 1, 5, 0), Due.BAD);
         x.smuggle(0);
         due.is("one who is out", x.span(0, 0, 1, 2, 0), Due.BAD);
     }
@@ -206,6 +210,11 @@ final class ForetoldTest {
         x.drop(7);
         due.is("21", x.odds(0, 0, 1, 1, 0), Due.BAD);
         due.is("status stays", x.status(), 1);
+        x.set(0, 0, 20);
+        due.is("a most of 21", x.odds(0, 0, 1, 1, 0), Due.BAD);
+        x.set(0, 0, -1);
+        x.set(1, 0, 0);
+        due.is("a fewest of -1", x.odds(0, 0, 1, 1, 0), Due.BAD);
         x.smuggle(0);
         x.row(0, 0, 1);
         x.row(1, 0, 1);

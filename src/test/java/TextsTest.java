@@ -84,6 +84,12 @@ final class TextsTest {
         fault("town", 4, 1);
         fault("town \n", 6, 1);
         fault("ton list 1 1 1;", 0, 1);
+        fault("down list 1 1 1;", 0, 1);
+        fault("townz list 1 1 1;", 0, 1);
+        fault("town` list 1 1 1;", 4, 1);
+        fault("town{ list 1 1 1;", 4, 1);
+        fault("town list 1/ 1 1;", 11, 1);
+        fault("town list 1: 1 1;", 11, 1);
         fault("person born 1 1;", 0, 1);
         fault("; town", 0, 1);
         fault("town born 1 1 1;", 5, 1);
