@@ -1015,11 +1015,11 @@ public final class AsManyAsCame {
             this.town = town;
         }
 
-        int askSize(int person, int depth) {
+        private int askSize(int person, int depth) {
             return begin(nearest(SIZES, LENT_SIZE, person), person, depth + 1);
         }
 
-        int askMark(int person, int depth) {
+        private int askMark(int person, int depth) {
             return begin(nearest(MARKS, LENT_MARK, person), person, depth + 1);
         }
 

@@ -108,6 +108,15 @@ final class Due {
         return all;
     }
 
+    /** First so many of one item, then so many of another. */
+    static int[] twoParts(int n, int first, int m, int second) {
+        int[] all = new int[n + m];
+        for (int i = 0; i < all.length; i++) {
+            all[i] = i < n ? first : second;
+        }
+        return all;
+    }
+
     static String many(String person, int n) {
         return person.repeat(n);
     }
