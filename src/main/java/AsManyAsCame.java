@@ -199,12 +199,9 @@ public final class AsManyAsCame {
         if (!town.isIn(person) || comings == null || outside(m, 1, MOST_FORETOLD)) {
             return BAD;
         }
-        int finding = comings.lacks(m);
-        if (finding != 0) {
-            return found(finding);
-        }
-        if (!comings.between(m, 0, MOST_COME)) {
-            return BAD;
+        int refused = refusal(comings, m, MOST_COME);
+        if (refused != 0) {
+            return refused;
         }
         return answered(town.dayOut(person, comings, m));
     }
@@ -218,12 +215,9 @@ public final class AsManyAsCame {
         if (outside(m, 1, MOST_FORETOLD) || outside(what, 0, 1)) {
             return BAD;
         }
-        int finding = spanFinding(low, high, m);
-        if (finding != 0) {
-            return found(finding);
-        }
-        if (!isSpan(low, high, m, MOST_COME)) {
-            return BAD;
+        int refused = spanRefusal(low, high, m, MOST_COME);
+        if (refused != 0) {
+            return refused;
         }
         // The more come the earlier he goes out; by those who pass him nothing changes.
         return answered(town.dayOut(person, what == 0 ? high : low, m));
@@ -238,12 +232,9 @@ public final class AsManyAsCame {
         if (outside(d, 1, MOST_ODDS_DAYS) || outside(what, 0, 1)) {
             return BAD;
         }
-        int finding = spanFinding(low, high, d);
-        if (finding != 0) {
-            return found(finding);
-        }
-        if (!isSpan(low, high, d, MOST_SPREAD)) {
-            return BAD;
+        int refused = spanRefusal(low, high, d, MOST_SPREAD);
+        if (refused != 0) {
+            return refused;
         }
         return answered(fraction(person, low, high, d, what));
     }
@@ -256,12 +247,9 @@ public final class AsManyAsCame {
         if (people < 0 || comings == null || outside(d, 1, MOST_FORETOLD)) {
             return BAD;
         }
-        int finding = comings.lacks(d);
-        if (finding != 0) {
-            return found(finding);
-        }
-        if (!comings.between(d, 0, MOST_COME)) {
-            return BAD;
+        int refused = refusal(comings, d, MOST_COME);
+        if (refused != 0) {
+            return refused;
         }
         return answered(fewestHired(people, comings, d));
     }
@@ -290,12 +278,9 @@ public final class AsManyAsCame {
         if (comings == null || outside(m, 1, MOST_FORETOLD)) {
             return BAD;
         }
-        int finding = comings.lacks(m);
-        if (finding != 0) {
-            return found(finding);
-        }
-        if (!comings.between(m, 0, MOST_COME)) {
-            return BAD;
+        int refused = refusal(comings, m, MOST_COME);
+        if (refused != 0) {
+            return refused;
         }
         return answered(town.firstHungryDay(comings, m));
     }
@@ -308,12 +293,9 @@ public final class AsManyAsCame {
         if (counts == null || outside(m, 1, MOST_COUNTED_DAYS) || outside(what, 0, 1)) {
             return BAD;
         }
-        int finding = counts.lacks(3 * m);
-        if (finding != 0) {
-            return found(finding);
-        }
-        if (!counts.between(3 * m, 0, MOST_COUNTED)) {
-            return BAD;
+        int refused = refusal(counts, 3 * m, MOST_COUNTED);
+        if (refused != 0) {
+            return refused;
         }
         return answered(leftUnseen(counts, m, what));
     }
@@ -448,10 +430,25 @@ public final class AsManyAsCame {
         return there;
     }
 
+    /** The refusal or FINDING of one who wants so many ITEMS of 0 to most of a ROW, 0: none. */
+    private int refusal(Row row, int wanted, int most) {
+        int finding = row.lacks(wanted);
+        if (finding != 0) {
+            return found(finding);
+        }
+        return row.between(wanted, 0, most) ? 0 : BAD;
+    }
+
     /** The first ROW is looked at whole ahead of the second. */
-    private static int spanFinding(Row low, Row high, int days) {
+    private int spanRefusal(Row low, Row high, int days, int spread) {
         int finding = low.lacks(days);
-        return finding != 0 ? finding : high.lacks(days);
+        if (finding == 0) {
+            finding = high.lacks(days);
+        }
+        if (finding != 0) {
+            return found(finding);
+        }
+        return isSpan(low, high, days, spread) ? 0 : BAD;
     }
 
     private static boolean isSpan(Row low, Row high, int days, int spread) {
@@ -971,7 +968,7 @@ public final class AsManyAsCame {
             return NONE;
         }
 
-        /** Each two who stand the wrong way round change places once, whichever go first: their number or their price. */
+        /** Each two who stand the wrong way round change places once: how many such two, or their price. */
         int swapped(boolean price) {
             int all = 0;
             for (int i = 0; i < size; i++) {

@@ -296,7 +296,8 @@ final class AskedEdges extends Edges {
     }
 
     private static void latestCall() {
-        promise(29, "Of the latest call with a ROW, or as(), that was not BAD, STATE, FULL: the number of its FINDING;");
+        promise(29, "Of the latest call with a ROW, or as(), that was not BAD, STATE, FULL: "
+                + "the number of its FINDING;");
         AsManyAsCame x = whole();
         x.drop(3);
         is("NULL", x.status(), 1);

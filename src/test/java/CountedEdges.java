@@ -45,7 +45,8 @@ final class CountedEdges extends Edges {
     }
 
     private static void moreHaste() {
-        terms("SWAPS: two who stand beside one another on THE LIST change places, if who stands behind has more HASTE:");
+        terms("SWAPS: two who stand beside one another on THE LIST change places, "
+                + "if who stands behind has more HASTE:");
         is("more by one", hastes(4, 5).swaps(0, 0), 1);
         is("as much", hastes(5, 5).swaps(0, 0), 0);
         is("less by one", hastes(5, 4).swaps(0, 0), 0);

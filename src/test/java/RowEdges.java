@@ -158,7 +158,8 @@ final class RowEdges extends Edges {
     }
 
     private static void lowestBits() {
-        promise(3, "ITEM i becomes v, its lowest bits, as many as the LANE has (read with their sign): what it is then.");
+        promise(3, "ITEM i becomes v, its lowest bits, as many as the LANE has (read with their sign): "
+                + "what it is then.");
         int[] told = {0, 127, 128, 129, 255, 256, -1, -128, -129, -256, 32767, 32768, 65535, 65536, -32768, -32769,
             MOST, LEAST};
         int[][] kept = {

@@ -143,8 +143,8 @@ final class TermEdges extends Edges {
     }
 
     private static void findings() {
-        terms("-1000010 less 1 NULL (a ROW that is missing), 2 PLACE (no such place of a ROW), 3 KIND (a PERSON that is "
-                + "not that), 4 SIZE (fewer than none), 5 STORE (ROWS of two LANES).");
+        terms("-1000010 less 1 NULL (a ROW that is missing), 2 PLACE (no such place of a ROW), "
+                + "3 KIND (a PERSON that is not that), 4 SIZE (fewer than none), 5 STORE (ROWS of two LANES).");
         found("NULL", x -> x.drop(3), -1000011);
         found("PLACE", x -> x.set(0, 5, 0), -1000012);
         found("KIND", x -> x.as(1, 5), -1000013);

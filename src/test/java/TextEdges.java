@@ -69,7 +69,8 @@ final class TextEdges extends Edges {
 
     /** Ahead of the n bytes there are others, which do not come. */
     private static void lowestBytes() {
-        promise(6, "The lowest n bytes of w (1 to 8), the highest of them first, come behind the tape: how many it has.");
+        promise(6, "The lowest n bytes of w (1 to 8), the highest of them first, come behind the tape: "
+                + "how many it has.");
         String text = "town kind 999 99 20;person called 9 99;";
         for (int n = 1; n <= 8; n++) {
             AsManyAsCame x = new AsManyAsCame();
@@ -271,7 +272,8 @@ final class TextEdges extends Edges {
         are("all five", Due.places(x, 0), 1, 2, 4, 5, 3);
         are("all are in", Due.places(x, 3), 0, 1, 2, 3, 4);
         for (String other : new String[] {"pilgri", "pilgrims", "qilgrim", "hire", "hiree", "fired", "bor", "borne",
-            "bora", "torn", "smuggle", "smugglec", "tmuggled", "call", "callee", "balled", "person", "list", "1", ";", "1000"}) {
+            "bora", "torn", "smuggle", "smugglec", "tmuggled", "call", "callee", "balled", "person", "list", "1", ";",
+            "1000"}) {
             fault(HEAD + "person " + other + " 0 0;", BEHIND_HEAD + 7, 1);
         }
     }
