@@ -22,7 +22,7 @@ public final class AsManyAsCame {
     private final Town town = new Town();
     private final Town draft = new Town();
     private final Town[] images = new Town[MOST_IMAGES];
-    private final Asked asked = new Asked(town);
+    private final Asked asked = new Asked();
     private final Numbers ways = new Numbers(MOST_COME * MOST_ODDS_DAYS + 1);
     private int latestFault = 0;
     private int latestFinding = 0;
@@ -359,7 +359,7 @@ public final class AsManyAsCame {
             return BAD;
         }
         asked.length = 0;
-        return what == 0 ? asked.askSize(person, 0) : asked.askMark(person, 0);
+        return what == 0 ? asked.askSize(town, person, 0) : asked.askMark(town, person, 0);
     }
 
     public int trace(int i) {
@@ -874,7 +874,7 @@ public final class AsManyAsCame {
         }
 
         /** The less it is the earlier he goes; of like ones they go as they stand. */
-        private int turnOf(int kind, int rank) {
+        private int turn(int kind, int rank) {
             if (law == BY_KIND) {
                 return kind >= 0 && kind < TURNS.length ? TURNS[kind] : TURNS.length;
             }
@@ -882,12 +882,12 @@ public final class AsManyAsCame {
         }
 
         private int turnOf(int person) {
-            return turnOf(kinds.at(person), ranks.at(person));
+            return turn(kinds.at(person), ranks.at(person));
         }
 
         /** If one of a KIND, of RANK 0, who comes from now on goes ahead of him. */
         boolean letsPass(int kind, int person) {
-            return turnOf(kind, 0) < turnOf(person);
+            return turn(kind, 0) < turnOf(person);
         }
 
         /** How many who are in go ahead of him. */
@@ -1004,24 +1004,19 @@ public final class AsManyAsCame {
         private static final int[] MARKS = {0, 21, 0, 22, 23, 0};
         private static final int LENT_SIZE = 10, LENT_MARK = 20;
 
-        private final Town town;
         final Numbers bodies = new Numbers(MOST_TRACED);
         int length = 0;
 
-        Asked(Town town) {
-            this.town = town;
+        private int askSize(Town town, int person, int depth) {
+            return begin(nearest(SIZES, LENT_SIZE, town.kinds.at(person)), town, person, depth + 1);
         }
 
-        private int askSize(int person, int depth) {
-            return begin(nearest(SIZES, LENT_SIZE, person), person, depth + 1);
+        private int askMark(Town town, int person, int depth) {
+            return begin(nearest(MARKS, LENT_MARK, town.kinds.at(person)), town, person, depth + 1);
         }
 
-        private int askMark(int person, int depth) {
-            return begin(nearest(MARKS, LENT_MARK, person), person, depth + 1);
-        }
-
-        private int nearest(int[] told, int lent, int person) {
-            int kind = town.kinds.at(person);
+        private static int nearest(int[] told, int lent, int asked) {
+            int kind = asked;
             for (int step = 0; step < ABOVE.length; step++) {
                 if (kind < 0 || kind >= told.length || kind >= ABOVE.length) {
                     return lent;
@@ -1034,7 +1029,7 @@ public final class AsManyAsCame {
             return lent;
         }
 
-        private int begin(int body, int person, int depth) {
+        private int begin(int body, Town town, int person, int depth) {
             // No ask goes half as deep; the bound is there for whoever adds BODIES.
             if (depth > DEEPEST) {
                 return 0;
@@ -1048,21 +1043,21 @@ public final class AsManyAsCame {
                 case 10:
                     return town.hastes.at(person);
                 case 11:
-                    return begin(10, person, within) + askMark(person, within);
+                    return begin(10, town, person, within) + askMark(town, person, within);
                 case 12:
-                    return -begin(11, person, within);
+                    return -begin(11, town, person, within);
                 case 13:
-                    return begin(10, person, within) - 100;
+                    return begin(10, town, person, within) - 100;
                 case 14:
-                    return 2 * begin(13, person, within);
+                    return 2 * begin(13, town, person, within);
                 case 20:
                     return person;
                 case 21:
-                    return begin(20, person, within) + 100 * town.ranks.at(person);
+                    return begin(20, town, person, within) + 100 * town.ranks.at(person);
                 case 22:
-                    return begin(21, person, within) - 1000;
+                    return begin(21, town, person, within) - 1000;
                 case 23:
-                    return begin(20, person, within) - askSize(person, within);
+                    return begin(20, town, person, within) - askSize(town, person, within);
                 default:
                     return 0;
             }

@@ -80,13 +80,24 @@ final class LanguageTest {
             int m = c.getModifiers();
             due.is("static: " + c, Modifier.isStatic(m) && !Modifier.isPublic(m) ? 1 : 0, 1);
             due.is("within no class inside: " + c, c.getDeclaredClasses().length, 0);
+            handsOutNothing(c);
             inside(c);
         }
         inside(AsManyAsCame.class);
     }
 
+    /** A constructor that takes numbers alone is given no part of the object that is being made. */
+    private static void handsOutNothing(Class<?> c) {
+        for (Constructor<?> made : c.getDeclaredConstructors()) {
+            for (Class<?> parameter : made.getParameterTypes()) {
+                due.is("a number: " + parameter + " of " + made, parameter.isPrimitive() ? 1 : 0, 1);
+            }
+        }
+    }
+
     private static void inside(Class<?> c) {
         int own = 0;
+        Set<String> names = new HashSet<>();
         for (Field f : c.getDeclaredFields()) {
             due.is("a static field is final: " + f, isFree(f) ? 1 : 0, 0);
             own += Modifier.isStatic(f.getModifiers()) ? 0 : 1;
@@ -94,6 +105,8 @@ final class LanguageTest {
         due.is("some twenty fields: " + c, own <= 20 ? 1 : 0, 1);
         for (Method m : c.getDeclaredMethods()) {
             due.is("seven parameters: " + m, m.getParameterCount() <= 7 ? 1 : 0, 1);
+            // One that calls another of its own name would look like a recursion without a guard.
+            due.is("a name of its own: " + m, names.add(m.getName()) ? 1 : 0, 1);
         }
     }
 
