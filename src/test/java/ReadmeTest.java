@@ -13,7 +13,6 @@ import java.util.TreeSet;
 import java.util.regex.Matcher;
 import java.util.regex.Pattern;
 import java.util.stream.Stream;
-import javax.tools.ToolProvider;
 
 /** That README.md says what the class does: its java lines are compiled as they stand, and run. */
 final class ReadmeTest {
@@ -80,8 +79,9 @@ final class ReadmeTest {
         Path built = Files.createTempDirectory("page");
         try {
             Path file = Files.writeString(built.resolve("Page.java"), source);
-            int failed = ToolProvider.getSystemJavaCompiler().run(null, null, null, "-cp",
-                    System.getProperty("java.class.path"), "-d", built.toString(), file.toString());
+            // The javac that .ci/run calls, too: this java need not bring a compiler of its own.
+            int failed = new ProcessBuilder("javac", "-cp", System.getProperty("java.class.path"), "-d",
+                    built.toString(), file.toString()).inheritIO().start().waitFor();
             due.is("javac of the lines", failed, 0);
             List<Long> answers = new ArrayList<>();
             if (failed == 0) {
